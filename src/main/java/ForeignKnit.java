@@ -174,7 +174,7 @@ public final class ForeignKnit {
 
     public int entry(int number, int word) {
         Shelf ready = readyShelf();
-        if (!isWord(word) || number < 0 || number >= ready.fitting) {
+        if (!isWord(word) || number < 0 || number >= ready.fitting || number >= ready.fit.length) {
             return NONE;
         }
         return Shelf.meaningIn(ready.fit[number], word);
@@ -974,7 +974,9 @@ public final class ForeignKnit {
                 for (int meaning = 0; meaning < MEANINGS; meaning++) {
                     int takes = meaning / 3;
                     int leaves = meaning % 3;
-                    if (isOfKind(kinds[word], takes, leaves) && rules.value(takes, leaves, uses[word], word) != 0) {
+                    boolean good = isOfKind(kinds[word], takes, leaves)
+                        && rules.value(takes, leaves, uses[word], word) != 0;
+                    if (good && size < MEANINGS) {
                         meanings[word][size] = meaning;
                         size++;
                     }

@@ -38,6 +38,7 @@ public final class PromiseTest {
         bookItemFaults();
         rulesFaults();
         bookState();
+        bookBehindBook();
         rulesMeaning();
         notesFaults();
         terms();
@@ -233,6 +234,44 @@ public final class PromiseTest {
         ForeignKnit y = Checks.of("casts60;word uses any;word takes any;row uses2takes(uses)2;after0is99;");
         due("book: a letter right behind a number", y.line(0, 0), 5);
         due("book: names of facts", y.there(0, 2), 1);
+        ForeignKnit z = Checks.of("word a any;word aa any;word zzzzzzzz any;word azzzzzzz any;row aa azzzzzzz a zzzzzzzz;");
+        int[] order = {1, 3, 0, 2};
+        for (int i = 0; i < order.length; i++) {
+            due("book: no two names are one", z.there(0, i), order[i]);
+        }
+    }
+
+    /** Nothing of the books ahead is left in the answers, whether they had faults or not. */
+    private static void bookBehindBook() {
+        ForeignKnit x = Checks.of("rules 0; word a any; casts 9; row a 3 ; after 0 is 7;");
+        due("ahead: fits", x.fits(), 0);
+        due("ahead: brief", x.line(0, 3), 2);
+        due("ahead: misprints", x.misprints(), 0);
+        due("ahead: judged", x.judged(2), 0);
+        due("ahead: a fault", Checks.book(x, "rules 0; word a any; word b any; casts 5; row a b a b 2 ; after 0 is 3; rules"),
+            3 + 16 * 72);
+        due("ahead: uses stay", x.term(0, 3), 3);
+        due("next: slip", Checks.book(x, SLIP), 0);
+        due("next: fits", x.fits(), 0);
+        due("next: misprints", x.misprints(), 2);
+        due("next: no count", x.count(4), 0);
+        due("next: brief", x.line(0, 3), 3);
+        due("next: uses", x.term(0, 3) * 10 + x.term(1, 3), 53);
+        due("then: a fault", Checks.book(x, "word a any; word b any; casts 5; row a 3 b ; row b 4 ; after 1 is 3; rules 0; row ;"),
+            1 + 16 * 82);
+        due("then: pair", Checks.book(x, PAIR), 0);
+        due("then: fits", x.fits(), 5);
+        due("then: judged", x.judged(2), 5);
+        due("then: uses", x.term(0, 3) * 10 + x.term(1, 3), 31);
+        due("then: brief", x.line(0, 3) * 10 + x.line(1, 3), 22);
+        due("then: chance", x.chance(0, 2), 800000);
+        x.guess(0, 1, 1);
+        due("then: guessed", x.fits(), 1);
+        due("then: misprints", x.misprints(), 4);
+        due("last: hat", Checks.book(x, HAT), 0);
+        due("last: fits", x.fits(), 9);
+        due("last: misprints", x.misprints(), 2);
+        due("last: entry", x.entry(8, 1), 2);
     }
 
     private static void rule(String rules, int first, int second) {
@@ -490,6 +529,20 @@ public final class PromiseTest {
         }
         due("undo: the 17th", x.undo(), false);
         due("undo: what is left", x.line(0, 1), 3);
+        ForeignKnit y = Checks.of(SCARF);
+        y.tell(1, 50);
+        for (int i = 0; i < 9; i++) {
+            y.guess(0, i / 3, i % 3);
+            y.tell(0, i);
+        }
+        for (int i = 8; i > 0; i--) {
+            y.undo();
+            due("undo: each where it was", y.line(0, 1) * 100 + y.term(0, 1), 100 * (i - 1) + i);
+            y.undo();
+            due("undo: each as it was", y.line(0, 1) * 100 + y.term(0, 1), 101 * (i - 1));
+        }
+        due("undo: three are lost", y.undo(), false);
+        due("undo: lost", y.line(1, 1), 50);
     }
 
     private static void judged(ForeignKnit x, String text, int impossible, int stuck, int left) {
@@ -502,6 +555,8 @@ public final class PromiseTest {
     private static void judging() {
         ForeignKnit x = Checks.of(SCARF);
         due("judged: no notes", x.judged(0) + 10 * x.judged(1) + 100 * x.judged(2), 89);
+        Checks.notes(x, "tell 1 9;");
+        due("judged: notes behind an answer", x.judged(2), 0);
         x.guess(0, 2, 2);
         x.drop(1);
         judged(x, "", -1, -1, 1);
@@ -752,6 +807,16 @@ public final class PromiseTest {
         due("drops: the fewest", pair.drops(), 2);
         pair.tell(0, 9);
         due("drops: both", pair.drops(), 3);
+        ForeignKnit later = Checks.of(PAIR);
+        later.tell(0, 4);
+        later.tell(1, 0);
+        due("drops: of equal ones not the last", later.drops(), 1);
+        ForeignKnit three = Checks.of("word aa any;word bb any;word cc even;casts 2;row aa bb;row aa 2;row cc 2;");
+        due("fits: three rows", three.fits(), 5);
+        three.tell(0, 0);
+        three.tell(1, 0);
+        three.tell(2, 2);
+        due("drops: one, not two of lower rows", three.drops(), 4);
         due("drops: slip", Checks.of(SLIP).drops(), -1);
         due("drops: new", new ForeignKnit().drops(), 0);
         ForeignKnit few = Checks.of("word aa any;word bb any;rules takes = 1 and leaves < 2;casts 1;row aa;row bb;row bb;");
@@ -961,7 +1026,9 @@ public final class PromiseTest {
         x.tell(0, 7);
         due("mark: another one", x.mark(0, false), true);
         Checks.notes(x, "drop 1;");
+        due("mark: none fits ahead", x.fits(), 0);
         due("mark: back", x.mark(3, true), true);
+        due("mark: one fits", x.fits(), 1);
         due("mark: the guess", x.term(1, 1), 6);
         due("mark: the other one is not guessed", x.term(0, 1), -1);
         due("mark: no count 0", x.line(0, 1), -1);

@@ -378,6 +378,25 @@ public final class RandomTest {
         due("drops", x.drops(), y.drops());
         slips();
         drafts();
+        compareCounts();
+    }
+
+    /** With some counts told, all but by chance. */
+    private void compareCounts() {
+        for (int i = 0; i < 4 && rows > 0; i++) {
+            int told = 2 + random.nextInt(3);
+            for (int j = 0; j < told; j++) {
+                int row = random.nextInt(rows);
+                int stitches = y.least(row) < 0 ? random.nextInt(6)
+                    : random.nextBoolean() ? y.least(row) : Math.min(y.most(row), 99);
+                due("tell", x.tell(row, stitches), y.tell(row, stitches));
+            }
+            due("drops", x.drops(), y.drops());
+            due("spare", x.spare(), y.spare());
+            for (int j = 0; j < told; j++) {
+                due("undo", x.undo(), y.undo());
+            }
+        }
     }
 
     private void compareWord(int word, int fits) {
