@@ -389,7 +389,7 @@ public final class ForeignKnit {
                 g = (g * 1103515245L + 12345L) % 2147483648L;
                 packed |= told.meaningBelow(word, g / 65536) << 4 * word;
             }
-            int down = told.rowsDown(packed);
+            int down = told.rowsDown(packed, ROWS);
             up += told.rows - Integer.bitCount(down);
             if (down == 0 && hand.agrees(packed, told)) {
                 fitting++;
@@ -1051,26 +1051,13 @@ public final class ForeignKnit {
             return takesOf(row, packed) - there;
         }
 
-        /** The rows that do not go up, as bits. */
-        int rowsDown(int packed) {
+        /** The rows that do not go up, as bits; MANY as soon as there are more than so many. */
+        int rowsDown(int packed, int most) {
             int bits = 0;
             int there = casts;
             for (int row = 0; row < rows && row < ROWS; row++) {
                 if (takesOf(row, packed) != there) {
-                    bits |= 1 << row;
-                }
-                there = leavesOf(row, packed);
-            }
-            return bits;
-        }
-
-        /** The same, but MANY as soon as that is sure: most dictionaries are given up early so. */
-        int rowsDownOrMany(int packed) {
-            int bits = 0;
-            int there = casts;
-            for (int row = 0; row < rows && row < ROWS; row++) {
-                if (takesOf(row, packed) != there) {
-                    if (Integer.bitCount(bits) == 2) {
+                    if (Integer.bitCount(bits) >= most) {
                         return MANY;
                     }
                     bits |= 1 << row;
@@ -1594,7 +1581,7 @@ public final class ForeignKnit {
             Arrays.fill(digits, 0);
             for (int i = 0; i < many && i < all.length; i++) {
                 int packed = packDigits();
-                int down = book.rowsDownOrMany(packed);
+                int down = book.rowsDown(packed, 2);
                 all[i] = packed | down << DOWN;
                 if (down == 0 && standing < upright.length) {
                     upright[standing] = packed;
