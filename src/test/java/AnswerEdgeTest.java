@@ -233,6 +233,8 @@ public final class AnswerEdgeTest {
         doc.due("as many behind each", Checks.of("word aa even;word bb any;casts 2;row aa 2;row aa 2;").ask(), -1);
         doc.due("none fits", Checks.of(SLIP).ask(), -1);
         doc.due("no rows", Checks.of(FREE).ask(), -1);
+        ForeignKnit bare = Checks.of("word a any;word b any;rules leaves = 0;casts 2;row a b;");
+        doc.due("none behind it by each of three", bare.ask(), -1);
         // cc is (1, 1), aa (1, 0 to 2), bb leaves as many as aa
         ForeignKnit equal = Checks.of("word aa any;word bb even;word cc even;casts 1;row cc;row aa;row bb;");
         doc.due("rows 1 and 2 are equal", equal.ask(), 1);
@@ -260,6 +262,7 @@ public final class AnswerEdgeTest {
         doc.due("one fits: none is less than all", Checks.of(SCARF).learn(), -1);
         doc.due("none fits", Checks.of(SLIP).learn(), -1);
         doc.due("no words", new ForeignKnit().learn(), -1);
+        doc.due("(0, 0) in all", Checks.of("word a any;word b any;rules which or takes + leaves = 0;").learn(), 1);
         ForeignKnit last = Checks.of(LAST);
         doc.due("one is the same in all, the other one is not", last.learn(), 1);
         last.guess(1, 1, 0);
@@ -425,6 +428,27 @@ public final class AnswerEdgeTest {
         String slip = "word kk even;word dd less;rules takes = 1 and leaves = 1 or takes = 2 and leaves = 1;row dd dd;";
         misprint(Checks.of(slip + "casts 3;"), 2, 0, 0, 0);
         misprint(Checks.of(slip + "casts 2;"), 0, -1, -1, -1);
+        // each word is (1, 1) or (2, 2): one of each is asked for
+        ForeignKnit guessed = Checks.of("word a even;word b even;rules takes;casts 3;row a a;");
+        misprint(guessed, 2, 0, 0, 1);
+        guessed.guess(0, 1, 1);
+        misprint(guessed, 2, 0, 0, 1);
+        guessed.guess(1, 1, 1);
+        misprint(guessed, 0, -1, -1, -1);
+        // a is (1, 1), b is (2, 1), c is (2, 2)
+        String abc = "word a any;word b any;word c any;rules takes = 1 + (0 < which) and leaves = 1 + (which = 2);casts 4;";
+        misprint(Checks.of(abc + "row a 3;row a 3;"), 3, 0, 0, 1);
+        misprint(Checks.of(abc + "row a 3;row a 3;after 1 is 3;"), 3, 0, 0, 1);
+        misprint(Checks.of(abc + "row a 3;row a 3;after 1 is 4;"), 0, -1, -1, -1);
+        misprint(Checks.of(abc + "row a 3;row a 3;after 0 is 3;"), 3, 0, 0, 1);
+        misprint(Checks.of(abc + "row a 3;row a 3;after 0 is 4;"), 0, -1, -1, -1);
+        misprint(Checks.of(abc + "row a 3;row a 4;"), 3, 0, 0, 2);
+        misprint(Checks.of(abc + "row a 3;"), 6, 0, 0, 1);
+        misprint(Checks.of(abc + "row a 4;row a 3;row a 3;"), 3, 1, 0, 1);
+        misprint(Checks.of(abc + "row a 4;row a 3;row a 4;"), 3, 1, 0, 2);
+        misprint(Checks.of(abc + "row a 3;row a 3;row a 4;"), 0, -1, -1, -1);
+        misprint(Checks.of(abc + "row a 3;row a 3;row a 4;row a 3;"), 0, -1, -1, -1);
+        misprint(Checks.of(abc + "row a 3;row a 3;row a 4;row a 3;row a 4;row a 3;row a 4;row a 3;"), 0, -1, -1, -1);
         // one fits as it is: a word put in place of itself is no way
         String same = "word a even;word b even;word c even;rules takes = 1;casts 2;row a a;row a a;";
         misprint(Checks.of(same), 8, 0, 0, 1);
@@ -552,6 +576,8 @@ public final class AnswerEdgeTest {
         brief("((a b)3 c)2", 9);
         brief("(((a b)3 c)2 d)2", 13);
         brief("(((a b)3 c)2 d)2 c (a b)3", 19);
+        // a b twice is as short without a bracket: there is none within three others
+        brief("(((a b a b c)2 d)2 b)2", 16);
         brief("a b c d a b", 6);
         brief("a a b a a b a a", 8);
         says("LONG of a ROW: its words. AT of a ROW: its i-th word.");
@@ -597,6 +623,18 @@ public final class AnswerEdgeTest {
         doc.due("one that parts them", pair.spare(), 0);
         pair.tell(1, 4);
         doc.due("each alone: the first one alone would do", pair.spare(), 1);
+        ForeignKnit needed = Checks.of(PAIR);
+        needed.tell(0, 2);
+        needed.tell(1, 4);
+        doc.due("one more fits without the first one, two without the other one", needed.spare(), 0);
+        ForeignKnit last = Checks.of(LAST);
+        last.tell(0, 1);
+        doc.due("one that each of three keeps", last.spare(), 1);
+        ForeignKnit guessed = Checks.of(PAIR);
+        guessed.tell(1, 2);
+        doc.due("four more fit without it", guessed.spare(), 0);
+        guessed.guess(0, 1, 1);
+        doc.due("by a guess none more", guessed.spare(), 1);
         ForeignKnit same = Checks.of("word aa any;casts 1;row aa;row aa;after 0 is 1;after 1 is 1;");
         doc.due("either alone would do", same.spare(), 2);
     }
@@ -622,6 +660,11 @@ public final class AnswerEdgeTest {
         hat.guess(0, 0, 0);
         doc.due("guessed: of nine, three fit", hat.strict(0), 6);
         doc.due("two rows do not go up", Checks.of(ONE + "casts 1;row aa 2;row aa;").strict(0), 0);
+        // ten of 81 ways to take two by four words, six of 27 by three
+        ForeignKnit four = Checks.of(FREE + "casts 2;row a b c d;");
+        doc.due("of 6561, 810 fit", four.strict(0), 5751);
+        four.guess(3, 0, 0);
+        doc.due("of 729, 162 fit", four.strict(0), 567);
     }
 
     private static void chance() {
@@ -786,5 +829,14 @@ public final class AnswerEdgeTest {
         x.mark(0, false);
         doc.due("what lies on another one stays", x.mark(3, true) && x.line(1, 1) == 3, true);
         doc.due("one laid once more", x.mark(0, true) && x.line(1, 1) == 8, true);
+        ForeignKnit asked = Checks.of(HAT);
+        asked.guess(0, 1, 1);
+        asked.mark(1, false);
+        String ahead = Edges.answers(asked);
+        asked.tell(0, 4);
+        asked.guess(0, 0, 0);
+        doc.due("other answers by other guesses", Edges.answers(asked).equals(ahead), false);
+        asked.mark(1, true);
+        doc.due("all answers as they were", Edges.answers(asked).equals(ahead), true);
     }
 }

@@ -63,6 +63,15 @@ final class Checks {
         return x.notes();
     }
 
+    /** The meanings that a word has, as bits: each one that can be guessed. */
+    static int meanings(ForeignKnit x, int word) {
+        int bits = 0;
+        for (int meaning = 0; meaning < 9; meaning++) {
+            bits |= x.guess(word, meaning / 3, meaning % 3) == -2 ? 0 : 1 << meaning;
+        }
+        return bits;
+    }
+
     /** A new object with a book, which must be without a fault. */
     static ForeignKnit of(String text) {
         ForeignKnit x = new ForeignKnit();

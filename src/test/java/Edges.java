@@ -5,8 +5,6 @@ import java.util.HashMap;
 import java.util.Map;
 import java.util.Set;
 import java.util.TreeSet;
-import java.util.regex.Matcher;
-import java.util.regex.Pattern;
 
 /**
  * Boundary cases, each under the sentence of the document that names it: says(..) tells the part
@@ -33,11 +31,16 @@ final class Edges {
             return;
         }
         try {
-            Matcher found = Pattern.compile("(?ms)^(?:## ([^\n:]+)|==== (\\d)\\.)(.*?)(?=^## |^==== |\\z)")
-                .matcher(Files.readString(DOCUMENT));
-            while (found.find()) {
-                String name = found.group(2) == null ? found.group(1) : "Terms " + found.group(2);
-                parts.put(name, found.group(3).replaceAll("\\s+", " "));
+            String name = "no part";
+            for (String line : Files.readAllLines(DOCUMENT)) {
+                if (line.startsWith("## ")) {
+                    name = line.substring(3).split(":")[0];
+                } else if (line.startsWith("==== ")) {
+                    name = "Terms " + line.charAt(5);
+                } else if (line.startsWith("The constants:")) {
+                    name = "The constants";
+                }
+                parts.merge(name, line, (text, more) -> (text + " " + more).replaceAll("\\s+", " "));
             }
         } catch (IOException e) {
             throw new IllegalStateException(e);
@@ -53,8 +56,7 @@ final class Edges {
         sentences++;
         named.add(newPart);
         // the document may be told anew while the test still holds: so this is said, and is no fault of the class
-        String text = parts.get(part);
-        if (text != null && !text.contains(sentence)) {
+        if (!parts.isEmpty() && !parts.getOrDefault(part, "").contains(sentence)) {
             System.out.println("Look again: " + part + " of the document does not say \"" + sentence + "\"");
         }
     }
@@ -95,6 +97,39 @@ final class Edges {
     void notesFault(String book, String marked, int kind) {
         String text = marked.replace("^", "");
         due("notes of " + text, Checks.notes(Checks.of(book), text), kind + 16 * marked.indexOf('^'));
+    }
+
+    /** All that is answered of the book and of what is done by hand, but for what can be undone. */
+    static String answers(ForeignKnit x) {
+        StringBuilder all = new StringBuilder();
+        int[] alone = {x.fits(), x.fixed(), x.open(), x.ask(), x.learn(), x.bad(), x.off(), x.twins(), x.idle(), x.drops(),
+            x.misprints(), x.misprint(0), x.misprint(1), x.misprint(2), x.spare(), x.judged(0), x.judged(1), x.judged(2),
+            x.count(0), x.count(1), x.count(2), x.count(3), x.count(4), x.count(5), x.count(6), x.count(8),
+            x.drafts(7, 30, 0), x.drafts(7, 30, 1), x.drafts(7, 30, 2)};
+        for (int answer : alone) {
+            all.append(answer).append(' ');
+        }
+        for (int word = 0; word < 4; word++) {
+            all.append("word ").append(x.could(word)).append(' ').append(x.sure(word)).append(' ');
+            for (int i = 0; i < 9; i++) {
+                all.append(x.entry(i * i, word)).append(' ').append(x.with(word, i / 3, i % 3)).append(' ');
+                all.append(x.term(word, i)).append(' ');
+            }
+        }
+        for (int row = 0; row < 8; row++) {
+            all.append("row ").append(x.least(row)).append(' ').append(x.most(row)).append(' ').append(x.kinds(row)).append(' ');
+            all.append(x.behind(row)).append(' ').append(x.strict(row)).append(' ').append(x.turned(row)).append(' ');
+            for (int i = 0; i < 8; i++) {
+                all.append(x.has(row, i)).append(' ').append(x.chance(row, i)).append(' ').append(x.line(row, i)).append(' ');
+                all.append(x.there(row, i * 7)).append(' ').append(x.alike(row, i)).append(' ');
+            }
+        }
+        return all.toString();
+    }
+
+    /** All is answered as it is by another object. */
+    void same(String call, ForeignKnit x, ForeignKnit other) {
+        due("all answers " + call, answers(x).equals(answers(other)), true);
     }
 
     /** Each promise of these numbers must have been named. */

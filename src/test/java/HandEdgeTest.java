@@ -39,14 +39,6 @@ public final class HandEdgeTest {
         doc.says(TERMS, sentence);
     }
 
-    private static int meanings(ForeignKnit x, int word) {
-        int bits = 0;
-        for (int meaning = 0; meaning < 9; meaning++) {
-            bits |= x.guess(word, meaning / 3, meaning % 3) == -2 ? 0 : 1 << meaning;
-        }
-        return bits;
-    }
-
     // meanings, dictionaries
 
     private static void meanings() {
@@ -68,18 +60,18 @@ public final class HandEdgeTest {
     private static void kinds() {
         says("an even one LEAVES as many as it TAKES, one that grows more, a less one fewer");
         ForeignKnit x = Checks.of("word a even;word b grows;word c less;word d any;");
-        doc.due("even: (0, 0), (1, 1), (2, 2)", meanings(x, 0), 1 << 0 | 1 << 4 | 1 << 8);
-        doc.due("grows: (0, 1), (0, 2), (1, 2)", meanings(x, 1), 1 << 1 | 1 << 2 | 1 << 5);
-        doc.due("less: (1, 0), (2, 0), (2, 1)", meanings(x, 2), 1 << 3 | 1 << 6 | 1 << 7);
-        doc.due("any: each", meanings(x, 3), 511);
+        doc.due("even: (0, 0), (1, 1), (2, 2)", Checks.meanings(x, 0), 1 << 0 | 1 << 4 | 1 << 8);
+        doc.due("grows: (0, 1), (0, 2), (1, 2)", Checks.meanings(x, 1), 1 << 1 | 1 << 2 | 1 << 5);
+        doc.due("less: (1, 0), (2, 0), (2, 1)", Checks.meanings(x, 2), 1 << 3 | 1 << 6 | 1 << 7);
+        doc.due("any: each", Checks.meanings(x, 3), 511);
     }
 
     private static void rulesOfMeanings() {
         says("by which the E of rules is not 0");
-        doc.due("less than 0", meanings(Checks.of("word aa any;rules takes - 1;"), 0), 455);
-        doc.due("0", meanings(Checks.of("word aa any;rules 0;"), 0), 0);
-        doc.due("by the kind as well", meanings(Checks.of("word aa even;rules takes;"), 0), 1 << 4 | 1 << 8);
-        doc.due("a kind that has none by it", meanings(Checks.of("word aa grows;rules takes = 2;"), 0), 0);
+        doc.due("less than 0", Checks.meanings(Checks.of("word aa any;rules takes - 1;"), 0), 455);
+        doc.due("0", Checks.meanings(Checks.of("word aa any;rules 0;"), 0), 0);
+        doc.due("by the kind as well", Checks.meanings(Checks.of("word aa even;rules takes;"), 0), 1 << 4 | 1 << 8);
+        doc.due("a kind that has none by it", Checks.meanings(Checks.of("word aa grows;rules takes = 2;"), 0), 0);
     }
 
     private static void dictionaries() {
@@ -251,6 +243,31 @@ public final class HandEdgeTest {
         x.tell(0, 100);
         x.drop(0);
         doc.due("what was refused later, too", x.undo(), false);
+        ForeignKnit y = Checks.of(SCARF);
+        String[] ahead = new String[5];
+        for (int i = 0; i < 5; i++) {
+            ahead[i] = Edges.answers(y);
+            doc.due("thing " + i + " done by hand", doOne(y, i), new int[] {3, -1, -1, 6, 4}[i]);
+        }
+        for (int i = 4; i >= 0; i--) {
+            y.undo();
+            doc.due("all answers as they were ahead of " + i, Edges.answers(y).equals(ahead[i]), true);
+        }
+    }
+
+    private static int doOne(ForeignKnit x, int i) {
+        switch (i) {
+            case 0:
+                return x.drop(1);
+            case 1:
+                return x.guess(1, 2, 0);
+            case 2:
+                return x.tell(0, 4);
+            case 3:
+                return x.forget(1);
+            default:
+                return x.tell(0, 5);
+        }
     }
 
     private static void undoSixteen() {
@@ -282,6 +299,25 @@ public final class HandEdgeTest {
             y.undo();
         }
         doc.due("fifteen ahead", y.line(1, 1), 24);
+        ForeignKnit turns = Checks.of(SCARF);
+        for (int i = 0; i < 9; i++) {
+            turns.guess(0, i / 3, i % 3);
+            turns.tell(0, 10 * i);
+            turns.tell(1, 90 - i);
+        }
+        // eleven of 27 are lost: three of each, and two more
+        for (int i = 8; i > 3; i--) {
+            turns.undo();
+            doc.due("the second row's", turns.line(1, 1), 91 - i);
+            turns.undo();
+            doc.due("the first row's", turns.line(0, 1), 10 * (i - 1));
+            turns.undo();
+            doc.due("the word's", turns.term(0, 1), i - 1);
+        }
+        doc.due("the sixteenth", turns.undo(), true);
+        doc.due("is the second row's", turns.line(1, 1), 88);
+        doc.due("no more", turns.undo(), false);
+        doc.due("what is lost stays", turns.line(0, 1) * 10 + turns.term(0, 1), 303);
     }
 
     // notes, judged

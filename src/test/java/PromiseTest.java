@@ -281,12 +281,7 @@ public final class PromiseTest {
     }
 
     private static int bitsOf(ForeignKnit x, int word) {
-        int bits = 0;
-        for (int meaning = 0; meaning < 9; meaning++) {
-            if (x.guess(word, meaning / 3, meaning % 3) != -2) {
-                bits |= 1 << meaning;
-            }
-        }
+        int bits = Checks.meanings(x, word);
         due("term of that many", x.term(word, 2), Integer.bitCount(bits));
         return bits;
     }

@@ -41,6 +41,7 @@ public final class TapeEdgeTest {
         faultKinds();
         faultsOfTooMany();
         bookFromThenOn();
+        bookBehindBooks();
         notesFromThenOn();
         atFirst();
         doc.end();
@@ -184,6 +185,11 @@ public final class TapeEdgeTest {
         doc.due("rows", x.count(1), 8);
         doc.due("casts", x.count(2), 3);
         doc.due("counts", x.count(4), 1 | 2 | 8 | 128);
+        for (String first : RESERVED) {
+            if (!" word casts row after rules ".contains(" " + first + " ")) {
+                doc.bookFault("word a any;row a;^" + first + " 0;", 1);
+            }
+        }
     }
 
     private static void wordStatements() {
@@ -200,6 +206,10 @@ public final class TapeEdgeTest {
         ForeignKnit kinds = doc.book("word a any;word b even;word c grows;word d less;");
         for (int word = 0; word < 4; word++) {
             doc.due("kind of word " + word, kinds.term(word, 0), word);
+        }
+        for (String other : RESERVED) {
+            boolean kind = " any even grows less ".contains(" " + other + " ");
+            doc.due(other, Checks.book(new ForeignKnit(), "word a " + other + ";"), kind ? 0 : 1 + 16 * 7);
         }
         doc.bookFault("word a ^takes;", 1);
         doc.bookFault("word a ^some;", 1);
@@ -297,6 +307,9 @@ public final class TapeEdgeTest {
         doc.bookFault(rows + "after ^9999 is 1;", 4);
         doc.bookFault(WORD + "row aa;after ^1 is 0;row aa;", 4);
         doc.bookFault(rows + "after ^aa is 1;", 1);
+        doc.bookFault(rows + "after 0 is 1;after ^aa is 1;", 1);
+        doc.bookFault(rows + "after 0 is 1;after ^;", 1);
+        doc.bookFault(rows + "after 0 is 1;after^", 1);
         doc.due("0", doc.book(rows + "after 0 is 0;").line(0, 1), 0);
         doc.due("99", doc.book(rows + "after 0 is 99;").line(0, 1), 99);
         doc.bookFault(rows + "after 0 is ^100;", 4);
@@ -326,6 +339,11 @@ public final class TapeEdgeTest {
         ForeignKnit empty = new ForeignKnit();
         doc.notes(empty, " ");
         doc.due("no lines without a book", empty.count(6), 0);
+        for (String first : RESERVED) {
+            if (!" guess forget tell drop ".contains(" " + first + " ")) {
+                doc.notesFault(BOOK, "drop 1;^" + first + " 0;", 1);
+            }
+        }
         says("(a word takes 0 to 2, leaves 0 to 2; a word; behind a ROW told there are 0 to 99; a ROW told)");
         doc.notes(x, "guess aa 0 0;guess aa 2 2;guess bb 0 2;forget bb;tell 0 0;tell 1 99;drop 0;drop 1;");
         doc.notesFault(BOOK, "guess aa ^3 0;", 4);
@@ -370,6 +388,15 @@ public final class TapeEdgeTest {
         doc.due("the first letter is another one", x.there(0, 1), 2);
         doc.due("a shorter one", x.there(0, 0), 3);
         doc.book("word a any;word aa any;word aaa any;word ba any;");
+        String told = "word a any;word z any;word ba any;word zz any;";
+        for (int i = 0; i < 27 * 26; i++) {
+            String name = (i < 26 ? "" : (char) ('a' + i / 26 - 1) + "") + (char) ('a' + i % 26);
+            boolean one = told.contains(" " + name + " ");
+            if (!name.equals("is") && !name.equals("or")) {
+                doc.due("row of " + name, Checks.book(new ForeignKnit(), told + "row " + name + ";"),
+                    one ? 0 : 2 + 16 * (told.length() + 4));
+            }
+        }
     }
 
     // rules
@@ -377,16 +404,8 @@ public final class TapeEdgeTest {
     /** The meanings that rules leave to two words of any kind, aa four times in the rows, bb never, as bits. */
     private static void rule(String rules, int aa, int bb) {
         ForeignKnit x = Checks.of("word aa any;word bb any;rules " + rules + ";row aa 3;row aa;");
-        doc.due("meanings of aa by " + rules, meanings(x, 0), aa);
-        doc.due("meanings of bb by " + rules, meanings(x, 1), bb);
-    }
-
-    private static int meanings(ForeignKnit x, int word) {
-        int bits = 0;
-        for (int meaning = 0; meaning < 9; meaning++) {
-            bits |= x.guess(word, meaning / 3, meaning % 3) == -2 ? 0 : 1 << meaning;
-        }
-        return bits;
+        doc.due("meanings of aa by " + rules, Checks.meanings(x, 0), aa);
+        doc.due("meanings of bb by " + rules, Checks.meanings(x, 1), bb);
     }
 
     private static void rule(String rules, boolean so) {
@@ -466,6 +485,9 @@ public final class TapeEdgeTest {
         doc.bookFault("rules (not (not (^1)));", 5);
         doc.bookFault("rules ((((1 + (^1)))));", 5);
         rule("((((1)))) and ((((1)))) * not not not not 2", true);
+        String deep = "0 or 1 = 0 + 1 * ";
+        rule(deep + "(" + deep + "(" + deep + "(" + deep + "(" + deep + "1))))", true);
+        rule(deep + "(" + deep + "(" + deep + "(" + deep + "(" + deep + "0))))", false);
         doc.bookFault("rules ((((1)))) and (((((^1)))));", 5);
     }
 
@@ -480,12 +502,12 @@ public final class TapeEdgeTest {
         rule("uses = 0", 0, 511);
         rule("which = 0", 511, 0);
         rule("which = 1", 0, 511);
-        doc.due("uses in rows told behind the rules", meanings(Checks.of("word aa any;rules uses = 61;row aa;row (aa 20)3;"), 0),
-            511);
+        ForeignKnit later = Checks.of("word aa any;rules uses = 61;row aa;row (aa 20)3;");
+        doc.due("uses in rows told behind the rules", Checks.meanings(later, 0), 511);
         ForeignKnit four = Checks.of("word a any;word b any;word c any;word d any;rules which = 3;");
-        doc.due("which of the last word is 3", meanings(four, 3), 511);
-        doc.due("which of the one ahead is not", meanings(four, 2), 0);
-        doc.due("a word with the name of a fact", meanings(Checks.of("word takes any;rules takes = 1;"), 0), 56);
+        doc.due("which of the last word is 3", Checks.meanings(four, 3), 511);
+        doc.due("which of the one ahead is not", Checks.meanings(four, 2), 0);
+        doc.due("a word with the name of a fact", Checks.meanings(Checks.of("word takes any;rules takes = 1;"), 0), 56);
     }
 
     private static void values() {
@@ -514,11 +536,11 @@ public final class TapeEdgeTest {
         rule("0 < 0 - 256 * 256 * 256 * 128 - 1", true);
         says("Without rules: 1.");
         ForeignKnit x = Checks.of("word aa any;word bb less;");
-        doc.due("meanings of any", meanings(x, 0), 511);
-        doc.due("meanings of less", meanings(x, 1), 200);
+        doc.due("meanings of any", Checks.meanings(x, 0), 511);
+        doc.due("meanings of less", Checks.meanings(x, 1), 200);
         Checks.book(x, "rules 0;");
         Checks.book(x, WORD);
-        doc.due("behind a book with rules", meanings(x, 0), 511);
+        doc.due("behind a book with rules", Checks.meanings(x, 0), 511);
     }
 
     // faults
@@ -661,6 +683,39 @@ public final class TapeEdgeTest {
         doc.due("casts nothing", x.count(2), 0);
         doc.due("no counts", x.count(4), 0);
         doc.due("one dictionary", x.fits(), 1);
+    }
+
+    /** Whatever was told and asked ahead, with faults or without, a book answers as it does to a new object. */
+    private static void bookBehindBooks() {
+        says("Without a FAULT a BOOK is the BOOK from then on");
+        String large = "word a any;word b any;word c any;word d any;casts 2;row a;row (a b)20 (c d)10;row b;row c;row d;"
+            + "row a a b a a b;row d 7;row a b c d;after 0 is 1;after 7 is 0;rules leaves < 2;";
+        String[] books = {large, "word c any;casts 2;row c 2;", BOOK, "word d less;word c any;", large, "", BOOK,
+            "word c even;word d even;casts 2;row d c;row c 2;", "rules 0;word a any;row a;", BOOK, large,
+            "word a any;word b any;casts 3;row a b;row a b;after 1 is 2;", "word a even;row a;", "word a any;row a;"};
+        String[] faulty = {"#", large + "after 0 is 1;", "word d any;rules 0;word c less;row c 3 d;row d;after 1 is 5;row"};
+        ForeignKnit x = new ForeignKnit();
+        ForeignKnit y = new ForeignKnit();
+        for (int i = 0; i < books.length; i++) {
+            ForeignKnit alone = Checks.of(books[i]);
+            doc.due("a book", Checks.book(x, books[i]), 0);
+            doc.same("of book " + i + " behind others", x, alone);
+            doc.due("a fault", Checks.book(y, faulty[i % faulty.length]) != 0, true);
+            Checks.book(y, books[i]);
+            doc.same("of book " + i + " behind others with faults", y, alone);
+            doc.due("a fault", Checks.book(y, faulty[(i + 1) % faulty.length]) != 0, true);
+            doc.same("of book " + i + " ahead of a fault", y, alone);
+            x.tell(0, 1);
+            x.guess(0, 1, 0);
+            x.mark(0, false);
+            Checks.notes(x, "drop 0;drop 0;");
+            Edges.answers(x);
+            x.mark(0, true);
+        }
+        ForeignKnit small = Checks.of("word a any;");
+        Checks.book(small, large);
+        Checks.book(small, "word a even;");
+        doc.due("a meaning of an older book", small.guess(0, 1, 0), -2);
     }
 
     private static void notesFromThenOn() {
