@@ -1592,12 +1592,13 @@ public final class ForeignKnit {
             bookStale = false;
         }
 
-        // small books are many, large ones stay: so the arrays are made at most twice
+        // small books are many, so each has what it needs; doubling, lest books that grow bit by bit make new arrays each
         private void makeRoom() {
             if (many > all.length) {
-                all = new int[MOST];
-                fit = new int[MOST];
-                upright = new int[MOST];
+                int size = Math.min(Math.max(many, 2 * all.length), MOST);
+                all = new int[size];
+                fit = new int[size];
+                upright = new int[size];
             }
         }
 

@@ -2,9 +2,9 @@ import com.sun.management.ThreadMXBean;
 import java.lang.management.ManagementFactory;
 
 /**
- * What the dearest runs make: 512 calls are to stay within 600,000 objects and 7.3 million elements.
- * An element is one byte at least, and an object sixteen, so the bytes that a run takes are looked at:
- * they must stay below 7.3 million where one byte is an element at least.
+ * What the dearest runs make: they are to stay within 600,000 objects and 7.3 million elements.
+ * An object takes sixteen bytes at least, and its elements two each (few are booleans), so the
+ * bytes that a run makes tell: what stays below sixteen for each of 600,000 stays within both.
  */
 public final class RoomTest {
     private static final int CALLS = 512;
@@ -19,19 +19,20 @@ public final class RoomTest {
     public static void main(String[] args) {
         due("new objects alone", RoomTest::manyObjects);
         due("new objects with large books", RoomTest::manyLargeObjects);
+        due("new objects with small books", RoomTest::manySmallObjects);
         due("one book behind another", RoomTest::manyBooks);
+        due("books that grow", RoomTest::growingBooks);
         due("all that is asked", RoomTest::manyQuestions);
         checks.end();
     }
 
     private static void due(String what, Runnable run) {
         run.run();
-        long ahead = BEAN.getThreadAllocatedBytes(Thread.currentThread().getId());
+        long ahead = BEAN.getCurrentThreadAllocatedBytes();
         run.run();
-        long bytes = BEAN.getThreadAllocatedBytes(Thread.currentThread().getId()) - ahead;
+        long bytes = BEAN.getCurrentThreadAllocatedBytes() - ahead;
         System.out.println("RoomTest: " + what + ": " + bytes + " bytes");
-        // most of what is made are ints, of four bytes
-        checks.due(what + ": room is left", bytes < 4L * 7300000, true);
+        checks.due(what + ": room is left", bytes < 16L * 600000, true);
     }
 
     private static void manyObjects() {
@@ -46,6 +47,31 @@ public final class RoomTest {
             x.fits();
             x.line(1, 3);
             x.misprints();
+        }
+    }
+
+    private static void manySmallObjects() {
+        for (int i = 0; i < CALLS; i++) {
+            Checks.of("word a any;word b any;row a b;").fits();
+        }
+    }
+
+    /** As many dictionaries as the rules let through, a few more each time, up to the most that there are. */
+    private static void growingBooks() {
+        ForeignKnit x = new ForeignKnit();
+        for (int words = 1; words <= 4; words++) {
+            for (int most = 0; most < 9; most++) {
+                String text = "rules takes * 3 + leaves < " + (most + 1) + " or which < " + (words - 1) + ";";
+                for (int word = 0; word < words; word++) {
+                    text += "word " + (char) ('a' + word) + " any;";
+                }
+                Checks.book(x, text);
+                int all = most + 1;
+                for (int word = 1; word < words; word++) {
+                    all *= 9;
+                }
+                checks.due("fits of " + text, x.fits(), all);
+            }
         }
     }
 
